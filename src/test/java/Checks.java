@@ -45,7 +45,10 @@ final class Checks {
         refused(map, what, IndexOutOfBoundsException.class, call);
     }
 
-    /** The very exception is due, not one of its kind, and the map stays as it was. */
+    /**
+     * The very exception is due, not one of its kind, thrown by the map's own code and not by the
+     * machine or the library for it; and the map stays as it was.
+     */
     private void refused(SegmentMap map, String what, Class<?> due, Call call) {
         String before = Picture.of(map);
         String got = "nothing\n";
@@ -53,6 +56,8 @@ final class Checks {
             call.run();
         } catch (RuntimeException e) {
             got = e.getClass().getName() + "\n";
+            String thrower = e.getStackTrace()[0].getClassName();
+            same(what + " is thrown in SegmentMap", thrower + "\n", "SegmentMap\n");
         }
         same(what + " throws", got, due.getName() + "\n");
         same("all after " + what, Picture.of(map), before);

@@ -66,6 +66,7 @@ final class OracleTests {
     }
 
     public static void main(String[] args) {
+        everyPair(4);
         run("tiny grid", 60, i -> onGrid(3, 1, 0));
         run("small grid", 60, i -> onGrid(5, 1, 0));
         run("grid", 60, i -> onGrid(8, 1, 0));
@@ -78,6 +79,31 @@ final class OracleTests {
         run("islands", 60, OracleTests::islands);
         run("long lines", 30, i -> new int[] {next(12), next(101), 88 + next(13), next(101)});
         CHECKS.finish();
+    }
+
+    /** Every two segments of a small grid, in both orders and with their ends in both orders. */
+    private static void everyPair(int size) {
+        int ends = size * size;
+        for (int i = 0; i < ends * ends * ends * ends; i++) {
+            int[] p = {i % size, i / size % size, i / ends % size, i / ends / size % size};
+            int j = i / ends / ends;
+            int[] q = {j % size, j / size % size, j / ends % size, j / ends / size};
+            if ((p[0] != p[2] || p[1] != p[3]) && (q[0] != q[2] || q[1] != q[3])) {
+                pair(p, q);
+            }
+        }
+    }
+
+    private static void pair(int[] p, int[] q) {
+        String name = java.util.Arrays.toString(p) + java.util.Arrays.toString(q);
+        SegmentMap map = new SegmentMap();
+        add(map, p);
+        if (Oracle.overlaps(p, q)) {
+            CHECKS.notNow(map, name, () -> add(map, q));
+        } else {
+            add(map, q);
+            CHECKS.same(name, Picture.of(map), new Oracle(List.of(p, q)).picture());
+        }
     }
 
     private static void run(String name, int runs, Kind kind) {
