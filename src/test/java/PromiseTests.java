@@ -70,7 +70,7 @@ final class PromiseTests {
         return map(0, 0, 20, 0, 20, 0, 10, 20, 10, 20, 0, 0);
     }
 
-    /** Three level, six upright segments, and more; 12 in all, none of them overlapping. */
+    /** As many segments as there can be, one above the other, with x from 0 to 100 each. */
     private static SegmentMap full() {
         SegmentMap made = new SegmentMap();
         for (int i = 0; i < 12; i++) {
@@ -79,7 +79,7 @@ final class PromiseTests {
         return made;
     }
 
-    /** All the calls that a number below 0, or from a count on, makes fail. */
+    /** A call with one number of a vertex, an edge or the like. */
     private interface Asked {
         int of(int number);
     }
@@ -305,7 +305,7 @@ final class PromiseTests {
         CHECKS.same("11", everyVertex(m, m::xDenominator), row(1, 1, 1, 3, 1, 11, 1, 1, 1));
         CHECKS.same("12", everyVertex(m, m::yNumerator), row(0, 3, 10, 10, 5, 40, 0, 4, 10));
         CHECKS.same("13", everyVertex(m, m::yDenominator), row(1, 1, 1, 3, 1, 11, 1, 1, 1));
-        // A common denominator of both coordinates is not in lowest terms: 1/2 and 1/3.
+        // The crossing at 50 and 1/3: each coordinate has lowest terms of its own.
         SegmentMap half = map(0, 0, 3, 2, 0, 1, 1, 0, 50, 0, 50, 100, 49, 0, 52, 1);
         CHECKS.same("10 own terms", everyVertex(half, half::xNumerator), row(0, 0, 3, 1, 3, 49, 50, 50,
                 50, 52));
