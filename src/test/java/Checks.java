@@ -33,6 +33,17 @@ final class Checks {
         }
     }
 
+    /** Any answer will do, but no exception. */
+    void answers(String what, Call call) {
+        asked++;
+        try {
+            call.run();
+        } catch (RuntimeException e) {
+            wrong++;
+            System.out.println(what + ": throws " + e.getClass().getName());
+        }
+    }
+
     void outOfRange(SegmentMap map, String what, Call call) {
         refused(map, what, IllegalArgumentException.class, call);
     }
@@ -50,7 +61,7 @@ final class Checks {
      * machine or the library for it; and the map stays as it was.
      */
     private void refused(SegmentMap map, String what, Class<?> due, Call call) {
-        String before = Picture.of(map);
+        String before = Picture.whole(map);
         String got = "nothing\n";
         try {
             call.run();
@@ -60,7 +71,7 @@ final class Checks {
             same(what + " is thrown in SegmentMap", thrower + "\n", "SegmentMap\n");
         }
         same(what + " throws", got, due.getName() + "\n");
-        same("all after " + what, Picture.of(map), before);
+        same("all after " + what, Picture.whole(map), before);
     }
 
     void finish() {

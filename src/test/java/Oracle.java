@@ -21,7 +21,7 @@ final class Oracle {
         }
     }
 
-    private record Piece(int line, int start, int end) {
+    record Piece(int line, int start, int end) {
     }
 
     private final List<int[]> lines;
@@ -34,6 +34,14 @@ final class Oracle {
     private int[] joined;
     private final TreeMap<Integer, Integer> faceOfCell = new TreeMap<>();
     private final List<Integer> firstVertices = new ArrayList<>();
+
+    static Oracle of(int... ends) {
+        List<int[]> lines = new ArrayList<>();
+        for (int i = 0; i < ends.length; i += 4) {
+            lines.add(new int[] {ends[i], ends[i + 1], ends[i + 2], ends[i + 3]});
+        }
+        return new Oracle(lines);
+    }
 
     Oracle(List<int[]> lines) {
         this.lines = lines;
@@ -143,7 +151,7 @@ final class Oracle {
         }
     }
 
-    private int components() {
+    int components() {
         int[] root = upTo(spots.size());
         for (Piece p : pieces) {
             join(root, p.start, p.end);
@@ -341,65 +349,92 @@ final class Oracle {
         return found;
     }
 
-    int faces() {
-        return firstVertices.size();
+    int segments() {
+        return lines.size();
+    }
+
+    boolean meet(int s, int t) {
+        return s == t || !commonSpots(lines.get(s), lines.get(t)).isEmpty();
     }
 
     int vertices() {
         return spots.size();
     }
 
+    Spot vertex(int v) {
+        return spots.get(v);
+    }
+
+    int degree(int v) {
+        return (int) pieces.stream().filter(p -> p.start == v || p.end == v).count();
+    }
+
     int edges() {
         return pieces.size();
     }
 
-    int componentCount() {
-        return components();
+    Piece edge(int e) {
+        return pieces.get(e);
+    }
+
+    int leftOf(int e) {
+        return leftOf(pieces.get(e));
+    }
+
+    int rightOf(int e) {
+        return rightOf(pieces.get(e));
+    }
+
+    int faces() {
+        return firstVertices.size();
+    }
+
+    int firstVertex(int f) {
+        return firstVertices.get(f);
+    }
+
+    int sides(int f) {
+        int found = 0;
+        for (Piece p : pieces) {
+            found += (leftOf(p) == f ? 1 : 0) + (rightOf(p) == f ? 1 : 0);
+        }
+        return found;
     }
 
     /** The same text as Picture.of makes of a map. */
     String picture() {
         StringBuilder text = new StringBuilder();
-        text.append("segments ").append(lines.size()).append('\n');
+        text.append("segments ").append(segments()).append('\n');
         text.append("components ").append(components()).append('\n');
-        for (int s = 0; s < lines.size(); s++) {
+        for (int s = 0; s < segments(); s++) {
             text.append("meet ").append(s).append(':');
-            for (int t = 0; t < lines.size(); t++) {
-                boolean one = s == t || !commonSpots(lines.get(s), lines.get(t)).isEmpty();
-                text.append(' ').append(one ? t : -1);
+            for (int t = 0; t < segments(); t++) {
+                text.append(' ').append(meet(s, t) ? t : -1);
             }
             text.append('\n');
         }
-        for (int v = 0; v < spots.size(); v++) {
-            Spot s = spots.get(v);
+        for (int v = 0; v < vertices(); v++) {
+            Spot s = vertex(v);
             text.append("vertex ").append(v).append(": ");
             text.append(s.x.over).append('/').append(s.x.under).append(' ');
             text.append(s.y.over).append('/').append(s.y.under);
             text.append(" degree ").append(degree(v)).append('\n');
         }
         int[] sides = new int[faces()];
-        for (int e = 0; e < pieces.size(); e++) {
-            Piece p = pieces.get(e);
-            sides[leftOf(p)]++;
-            sides[rightOf(p)]++;
+        for (int e = 0; e < edges(); e++) {
+            Piece p = edge(e);
+            int left = leftOf(p);
+            int right = rightOf(p);
+            sides[left]++;
+            sides[right]++;
             text.append("edge ").append(e).append(": segment ").append(p.line);
             text.append(", ").append(p.start).append(" to ").append(p.end);
-            text.append(", left ").append(leftOf(p)).append(", right ").append(rightOf(p)).append('\n');
+            text.append(", left ").append(left).append(", right ").append(right).append('\n');
         }
         for (int f = 0; f < faces(); f++) {
             text.append("face ").append(f).append(": sides ").append(sides[f]);
-            text.append(", first vertex ").append(firstVertices.get(f)).append('\n');
+            text.append(", first vertex ").append(firstVertex(f)).append('\n');
         }
         return text.toString();
-    }
-
-    private int degree(int v) {
-        int found = 0;
-        for (Piece p : pieces) {
-            if (p.start == v || p.end == v) {
-                found++;
-            }
-        }
-        return found;
     }
 }

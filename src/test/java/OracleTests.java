@@ -4,15 +4,13 @@ import java.util.List;
 /** Long runs of adds and removes, each state compared whole with the oracle. */
 final class OracleTests {
     private static final Checks CHECKS = new Checks("OracleTests");
-    private static long seed = 1;
+    private static final Draws DRAWS = new Draws();
 
     private OracleTests() {
     }
 
-    /** The same row of numbers each time; below a bound. */
     private static int next(int bound) {
-        seed = seed * 6364136223846793005L + 1442695040888963407L;
-        return (int) ((seed >>> 33) % bound);
+        return DRAWS.next(bound);
     }
 
     /** Which segments a run draws. */

@@ -1,4 +1,4 @@
-/** All answers of a map, as a text, a line each kind. */
+/** The answers of a map, as a text, a line each kind. */
 final class Picture {
     private Picture() {
     }
@@ -11,6 +11,23 @@ final class Picture {
         vertices(map, text);
         edges(map, text);
         faces(map, text);
+        return text.toString();
+    }
+
+    /** With the answers about places that are not the map's own, too. */
+    static String whole(SegmentMap map) {
+        StringBuilder text = new StringBuilder(of(map));
+        for (int x = 0; x <= 100; x += 10) {
+            text.append("line ").append(x).append(':');
+            for (int place = 0; place < map.crossing(x); place++) {
+                text.append(' ').append(map.crossingAt(x, place));
+            }
+            text.append(", points");
+            for (int y = 0; y <= 100; y += 10) {
+                text.append(' ').append(map.faceAt(x, y));
+            }
+            text.append('\n');
+        }
         return text.toString();
     }
 
