@@ -1,3 +1,4 @@
+import java.io.IOException;
 import java.lang.reflect.Member;
 import java.lang.reflect.Method;
 import java.lang.reflect.Modifier;
@@ -24,8 +25,12 @@ final class LanguageTests {
     public static void main(String[] args) throws Exception {
         faceIsTheDocuments();
         nothingElseIsVisible();
+        privateMethodsHaveOtherNames();
         staticFieldsAreFinal();
-        textKeepsTheRules(Files.readString(Path.of("src/main/java/SegmentMap.java")));
+        libraryIsTheAllowed();
+        String text = Files.readString(Path.of("src/main/java/SegmentMap.java"));
+        faceIsInItsOrder(text);
+        textKeepsTheRules(text);
         CHECKS.finish();
     }
 
@@ -43,8 +48,10 @@ final class LanguageTests {
                 .filter(m -> Modifier.isPublic(m.getModifiers())).map(LanguageTests::told).toList();
         CHECKS.same("methods", new TreeSet<>(got) + "\n", new TreeSet<>(due) + "\n");
         CHECKS.same("public", SegmentMap.class.getModifiers(), Modifier.PUBLIC | Modifier.FINAL);
-        CHECKS.same("constructors", SegmentMap.class.getConstructors().length, 1);
-        CHECKS.same("constants", SegmentMap.class.getFields().length, 1);
+        CHECKS.same("constructors", Arrays.toString(SegmentMap.class.getDeclaredConstructors()) + "\n",
+                "[public SegmentMap()]\n");
+        CHECKS.same("constants", Arrays.toString(SegmentMap.class.getFields()) + "\n",
+                "[public static final int SegmentMap.NONE]\n");
     }
 
     private static String told(Method m) {
@@ -64,28 +71,77 @@ final class LanguageTests {
             int hidden = m.getModifiers() & (Modifier.PUBLIC | Modifier.PRIVATE);
             CHECKS.same(m + " is public or private", hidden != 0, true);
         }
-        TreeSet<String> open = new TreeSet<>();
-        for (Method m : SegmentMap.class.getMethods()) {
-            open.add(m.getName());
-        }
+        CHECKS.same("few classes", SegmentMap.class.getDeclaredClasses().length < 12, true);
         for (Class<?> inside : SegmentMap.class.getDeclaredClasses()) {
             CHECKS.same(inside + " is static", Modifier.isStatic(inside.getModifiers()), true);
             CHECKS.same(inside + " is not public", Modifier.isPublic(inside.getModifiers()), false);
             CHECKS.same(inside + " has few fields", inside.getDeclaredFields().length <= 20, true);
-            for (Method m : inside.getDeclaredMethods()) {
-                CHECKS.same(m + " has a name of its own", open.contains(m.getName()), false);
+            // One that had would hide it from these tests.
+            CHECKS.same(inside + " has no class inside", inside.getDeclaredClasses().length, 0);
+        }
+    }
+
+    private static List<Class<?>> allClasses() {
+        List<Class<?>> all = new ArrayList<>(List.of(SegmentMap.class.getDeclaredClasses()));
+        all.add(SegmentMap.class);
+        return all;
+    }
+
+    /** No overloads of the face, and none of what every object has. */
+    private static void privateMethodsHaveOtherNames() {
+        TreeSet<String> open = new TreeSet<>();
+        for (Method m : SegmentMap.class.getMethods()) {
+            open.add(m.getName());
+        }
+        for (Class<?> one : allClasses()) {
+            for (Method m : one.getDeclaredMethods()) {
+                boolean hidden = !Modifier.isPublic(m.getModifiers());
+                CHECKS.same(m + " has a name of its own", hidden && open.contains(m.getName()), false);
             }
         }
     }
 
     private static void staticFieldsAreFinal() {
-        List<Class<?>> all = new ArrayList<>(List.of(SegmentMap.class.getDeclaredClasses()));
-        all.add(SegmentMap.class);
-        for (Class<?> one : all) {
+        for (Class<?> one : allClasses()) {
             for (java.lang.reflect.Field f : one.getDeclaredFields()) {
                 boolean open = Modifier.isStatic(f.getModifiers()) && !Modifier.isFinal(f.getModifiers());
                 CHECKS.same(f + " is final if it is static", open, false);
             }
+        }
+    }
+
+    /** What rule 4 lists, as far as the class needs it, and the exceptions that the document names. */
+    private static void libraryIsTheAllowed() throws IOException {
+        TreeSet<String> allowed = new TreeSet<>(List.of("java/lang/Object.<init>", "java/lang/Long.compare",
+                "java/lang/Math.abs", "java/lang/Math.max", "java/lang/Math.min"));
+        for (String call : List.of("<init>", "add", "get", "set", "remove", "size", "isEmpty", "clear")) {
+            allowed.add("java/util/ArrayList." + call);
+        }
+        for (String thrown : List.of(INDEX, ARGUMENT, STATE)) {
+            allowed.add("java/lang/" + thrown + ".<init>");
+        }
+        for (Class<?> one : allClasses()) {
+            for (String member : ClassFile.named(one)) {
+                boolean own = member.startsWith("SegmentMap");
+                CHECKS.same(one + " may use " + member, own || allowed.contains(member), true);
+            }
+        }
+    }
+
+    /** The calls in the document's order, each kind of them behind its heading. */
+    private static void faceIsInItsOrder(String text) {
+        List<String> due = List.of("// ---- segments\n", "int add(", "int remove(", "int segments(", "boolean meet(",
+                "// ---- vertices and edges\n", "int vertices(", "int edges(", "int faces(", "int components(",
+                "int xNumerator(", "int xDenominator(", "int yNumerator(", "int yDenominator(", "int degree(",
+                "int segmentOf(", "int from(", "int to(", "// ---- faces\n", "int leftOf(", "int rightOf(",
+                "int sides(", "int firstVertex(", "int faceAt(", "// ---- a vertical line\n", "int crossing(",
+                "int crossingAt(");
+        int at = text.indexOf("public SegmentMap()");
+        CHECKS.same("the constructor stands first", at > 0, true);
+        for (String part : due) {
+            int next = text.indexOf(part.startsWith("//") ? part : "public " + part);
+            CHECKS.same(part + " in its place", next > at, true);
+            at = next;
         }
     }
 
@@ -101,10 +157,16 @@ final class LanguageTests {
                     || word.equals("Exact") && code.contains(word) ? word : "";
             CHECKS.same("a word that the rules leave out", found + "\n", "\n");
         }
+        CHECKS.same("every throw is a new one with a written text", count(code, "\\bthrow\\b"),
+                count(code, "\\bthrow new (" + INDEX + "|" + ARGUMENT + "|" + STATE + ")\\(\"[^\"]+\"\\);"));
         CHECKS.same("only plain signs", text.chars().allMatch(c -> c == '\n' || c >= 32 && c < 127), true);
         CHECKS.same("at most seven parameters",
                 Pattern.compile("\\((?:\\w+ \\w+, ){7,}\\w+ \\w+\\)").matcher(code).find(), false);
         methodsAreShort(code);
+    }
+
+    private static long count(String code, String pattern) {
+        return Pattern.compile(pattern).matcher(code).results().count();
     }
 
     /** A method of a class on either level ends with a brace at its own depth. */
